@@ -201,10 +201,6 @@ public final class CodeYard {
         return operandMost(op) != NONE;
     }
 
-    private static int lengthOf(int op) {
-        return hasOperand(op) ? 2 : 1;
-    }
-
     private static int takes(int op) {
         return op >= 0 && op < TAKES.length ? TAKES[op] : 0;
     }
@@ -222,7 +218,10 @@ public final class CodeYard {
         return op == JUMP || op == JUMP_IF_ZERO || op == JUMP_IF_LESS;
     }
 
-    /** Ints behind one another. Every index is tested here, so that no user of a row can slip. */
+    /**
+     * Ints behind one another. Every index is tested here, so that no user of a row can slip; each
+     * method tests for itself, so that the calls of a step stay few within one another.
+     */
     private static final class Row {
         private final int[] items;
         private int count;
@@ -237,11 +236,11 @@ public final class CodeYard {
         }
 
         private int at(int i, int otherwise) {
-            return has(i) ? items[i] : otherwise;
+            return i >= 0 && i < count && i < items.length ? items[i] : otherwise;
         }
 
         private void put(int i, int v) {
-            if (has(i)) {
+            if (i >= 0 && i < count && i < items.length) {
                 items[i] = v;
             }
         }
@@ -254,9 +253,11 @@ public final class CodeYard {
         }
 
         private int takeLast() {
-            int last = at(count - 1, 0);
-            shorten(count - 1);
-            return last;
+            if (count <= 0 || count > items.length) {
+                return 0;
+            }
+            count--;
+            return items[count];
         }
 
         private void shorten(int n) {
@@ -264,9 +265,9 @@ public final class CodeYard {
         }
 
         private void become(int n, int v) {
-            count = 0;
-            for (int i = 0; i < n; i++) {
-                add(v);
+            count = Math.max(0, Math.min(n, items.length));
+            for (int i = 0; i < count && i < items.length; i++) {
+                items[i] = v;
             }
         }
 
@@ -392,7 +393,7 @@ public final class CodeYard {
         }
 
         private int readInstructions(Row bytes) {
-            for (int p = BEGINNINGS; p < bytes.count; p += lengthOf(bytes.at(p, 0))) {
+            for (int p = BEGINNINGS; p < bytes.count; p++) {
                 int found = readingFault(bytes, p);
                 if (found != SOUND) {
                     return found;
@@ -400,6 +401,9 @@ public final class CodeYard {
                 starts.put(p, 1);
                 instructions++;
                 lastStart = p;
+                if (hasOperand(bytes.at(p, NONE))) {
+                    p++;
+                }
             }
             int last = bytes.at(lastStart, 0);
             return last == JUMP || isEnding(last) ? SOUND : fault(FAULT_LAST, lastStart);
@@ -470,7 +474,7 @@ public final class CodeYard {
             if (isEnding(op)) {
                 return SOUND;
             }
-            int behind = p + lengthOf(op);
+            int behind = p + (hasOperand(op) ? 2 : 1);
             if (!isJump(op)) {
                 return comeTo(behind, after);
             }
@@ -581,6 +585,9 @@ public final class CodeYard {
             for (int i = 0; i < n && status == HELD; i++) {
                 step();
             }
+            if (status == THROWN) {
+                shelf.bringCellsBack();
+            }
             return status;
         }
 
@@ -632,7 +639,6 @@ public final class CodeYard {
         }
 
         private void fail(int why) {
-            shelf.bringCellsBack();
             status = THROWN;
             reason = why;
         }
@@ -688,15 +694,11 @@ public final class CodeYard {
         private void rearrange(int op) {
             Row pile = work.pile;
             int top = pile.takeLast();
-            if (op == COPY) {
+            if (op != DROP) {
+                int second = op == COPY ? top : pile.takeLast();
                 pile.add(top);
-                pile.add(top);
-            } else if (op == SWAP) {
-                int below = pile.takeLast();
-                pile.add(top);
-                pile.add(below);
+                pile.add(second);
             }
-            // DROP has nothing left to do.
         }
 
         private void jump(int op, int target) {

@@ -159,6 +159,9 @@ public final class InstructionTest {
         // Places above 127 have no sign: all behind the first one goes on at 255.
         int[] far = Check.join(new int[] {16, 255}, Check.times(250, 24), new int[] {23});
         result("16 to place 255", 0, far);
+        result("17 to place 255", 0, Check.join(new int[] {20, 17, 255}, Check.times(249, 24), new int[] {23}));
+        int[] less = {20, 0, 1, 18, 255};
+        result("18 to place 255", 0, Check.join(less, Check.times(247, 24), new int[] {23}));
     }
 
     private static void input() {

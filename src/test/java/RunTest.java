@@ -185,9 +185,11 @@ public final class RunTest {
         state(yard, "ended", 0, 8, 0, 4, 0, -1, -1, 1);
         yard.begin(3, 0);
         state(yard, "begun anew", 1, 0, 0, 0, 1, 3, 3, 0);
+        yard.go(9);
         Check.load(yard, 4, Check.code(24));
         yard.begin(4, 0);
         yard.go(1);
+        state(yard, "thrown", 2, 0, 1, 1, 0, -1, -1, 0);
         yard.begin(3, 0);
         state(yard, "begun after a throw", 1, 0, 0, 0, 1, 3, 3, 0);
     }
