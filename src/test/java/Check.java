@@ -1,22 +1,35 @@
 /** What the tests of the project share: counting wrong answers, and bringing bytes onto a tape. */
 final class Check {
+    private static int looked = 0;
     private static int wrong = 0;
+    private static String sentence = "";
 
     private Check() {
     }
 
     static void due(String call, long got, long want) {
+        looked++;
         if (got != want) {
             wrong++;
-            System.out.println(call + " answered " + got + ", due is " + want);
+            System.out.println(sentence + call + " answered " + got + ", due is " + want);
         }
     }
 
     static void that(String what, boolean holds) {
+        looked++;
         if (!holds) {
             wrong++;
-            System.out.println("not so: " + what);
+            System.out.println(sentence + "not so: " + what);
         }
+    }
+
+    /** A test of one sentence of the document; what is wrong in it is told with these words. */
+    static void sentence(String words, Runnable test) {
+        int before = looked;
+        sentence = "\"" + words + "\": ";
+        test.run();
+        that("the sentence is looked at", looked > before);
+        sentence = "";
     }
 
     /** Ends the test's program, with exit code 1 if an answer was wrong. */
@@ -43,6 +56,32 @@ final class Check {
     static int load(CodeYard yard, int k, int... bytes) {
         tape(yard, bytes);
         return yard.load(k);
+    }
+
+    /** A new yard with these instructions as code 0. */
+    static CodeYard yard(int... instructions) {
+        CodeYard yard = new CodeYard();
+        int loaded = load(yard, 0, code(instructions));
+        that("sound: " + loaded, loaded > 0);
+        return yard;
+    }
+
+    /** What state tells, from 0 on. */
+    static void states(String what, CodeYard yard, int... want) {
+        for (int i = 0; i < want.length; i++) {
+            due(what + ": state(" + i + ")", yard.state(i), want[i]);
+        }
+    }
+
+    /** Instructions that bring any int onto the stack, made of its bytes with their signs. */
+    static int[] number(int v) {
+        int b0 = (byte) v;
+        int v1 = (v ^ b0) >> 8;
+        int b1 = (byte) v1;
+        int v2 = (v1 ^ b1) >> 8;
+        int b2 = (byte) v2;
+        int b3 = (v2 ^ b2) >> 8;
+        return new int[] {0, b3, 0, 8, 11, 0, b2, 10, 0, 8, 11, 0, b1, 10, 0, 8, 11, 0, b0, 10};
     }
 
     /** Bytes of a code whose three beginnings are all at place 3. */

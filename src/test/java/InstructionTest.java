@@ -16,17 +16,6 @@ public final class InstructionTest {
         Check.finish();
     }
 
-    /** Instructions that bring any int onto the stack, made of its bytes with their signs. */
-    private static int[] number(int v) {
-        int b0 = (byte) v;
-        int v1 = (v ^ b0) >> 8;
-        int b1 = (byte) v1;
-        int v2 = (v1 ^ b1) >> 8;
-        int b2 = (byte) v2;
-        int b3 = (v2 ^ b2) >> 8;
-        return new int[] {0, b3, 0, 8, 11, 0, b2, 10, 0, 8, 11, 0, b1, 10, 0, 8, 11, 0, b0, 10};
-    }
-
     private static CodeYard run(int answer, int[] input, int... instructions) {
         CodeYard yard = new CodeYard();
         int loaded = Check.load(yard, 1, Check.code(instructions));
@@ -51,7 +40,7 @@ public final class InstructionTest {
     }
 
     private static void two(int op, int a, int b, int want) {
-        result(a + " (" + op + ") " + b, want, Check.join(number(a), number(b), new int[] {op, 22}));
+        result(a + " (" + op + ") " + b, want, Check.join(Check.number(a), Check.number(b), new int[] {op, 22}));
     }
 
     private static void numbers() {
@@ -60,7 +49,7 @@ public final class InstructionTest {
         result("0 128", -128, 0, 128, 22);
         result("0 255", -1, 0, 255, 22);
         for (int v : new int[] {0, 1, -1, 255, 256, -256, 0x12345678, 0x80808080, LEAST, MOST}) {
-            result("number", v, Check.join(number(v), new int[] {22}));
+            result("number", v, Check.join(Check.number(v), new int[] {22}));
         }
     }
 
@@ -144,14 +133,14 @@ public final class InstructionTest {
     private static void jumps() {
         result("16", 2, 16, 8, 0, 1, 22, 0, 2, 22);
         for (int a : new int[] {0, 1, -1, 256, LEAST}) {
-            int[] number = number(a);
+            int[] number = Check.number(a);
             int target = 3 + number.length + 2 + 3;
             int[] rest = {17, target, 0, 1, 22, 0, 2, 22};
             result("17 of " + a, a == 0 ? 2 : 1, Check.join(number, rest));
         }
         int[][] pairs = {{1, 2}, {2, 1}, {2, 2}, {-1, 0}, {0, -1}, {LEAST, MOST}, {MOST, LEAST}};
         for (int[] pair : pairs) {
-            int[] numbers = Check.join(number(pair[0]), number(pair[1]));
+            int[] numbers = Check.join(Check.number(pair[0]), Check.number(pair[1]));
             int target = 3 + numbers.length + 2 + 3;
             int[] rest = {18, target, 0, 1, 22, 0, 2, 22};
             result("18", pair[0] < pair[1] ? 2 : 1, Check.join(numbers, rest));
@@ -178,12 +167,13 @@ public final class InstructionTest {
         Check.due("19: byte 299", run(0, whole, 20, 0, 1, 6, 19, 22).state(1), 201);
         Check.due("19: byte 300", run(2, whole, 20, 19, 22).state(2), 2);
         thrown("19 of -1", 2, 2, 0, 255, 19, 22);
-        thrown("19 of the least", 2, 14, Check.join(number(LEAST), new int[] {19, 22}));
+        thrown("19 of the least", 2, 14, Check.join(Check.number(LEAST), new int[] {19, 22}));
         Check.due("19 twice", run(0, new int[] {4, 5}, 0, 1, 19, 0, 1, 19, 7, 22).state(1), 25);
     }
 
     private static void output() {
-        CodeYard yard = run(0, new int[] {}, Check.join(number(0x1234567f), new int[] {21, 0, 255, 21, 0, 1, 21, 23}));
+        int[] puts = {21, 0, 255, 21, 0, 1, 21, 23};
+        CodeYard yard = run(0, new int[] {}, Check.join(Check.number(0x1234567f), puts));
         int[] due = {0x7f, 255, 1};
         Check.due("21: bytes", yard.state(7), 3);
         for (int i = 0; i < 3; i++) {

@@ -22,12 +22,6 @@ public final class RunTest {
         Check.finish();
     }
 
-    private static void state(CodeYard yard, String what, int... want) {
-        for (int i = 0; i < want.length; i++) {
-            Check.due(what + ": state(" + i + ")", yard.state(i), want[i]);
-        }
-    }
-
     private static void beginnings() {
         CodeYard yard = new CodeYard();
         Check.load(yard, 2, 9, 3, 6, 0, 1, 22, 0, 2, 22, 0, 3, 22);
@@ -35,9 +29,9 @@ public final class RunTest {
         int[] places = {9, 3, 6};
         for (int b = 0; b < 3; b++) {
             Check.due("begin", yard.begin(2, b), 1);
-            state(yard, "begun", 1, 0, 0, 0, 1, 2, places[b], 0);
+            Check.states("begun", yard, 1, 0, 0, 0, 1, 2, places[b], 0);
             Check.due("go", yard.go(3), 0);
-            state(yard, "ended", 0, due[b], 0, 2, 0, -1, -1, 0);
+            Check.states("ended", yard, 0, due[b], 0, 2, 0, -1, -1, 0);
         }
     }
 
@@ -52,7 +46,7 @@ public final class RunTest {
             {7, Integer.MIN_VALUE}, {7, Integer.MAX_VALUE}};
         for (int[] w : wrong) {
             Check.due("begin(" + w[0] + ", " + w[1] + ")", yard.begin(w[0], w[1]), -1);
-            state(yard, "refused", 1, 0, 0, 4, 1, 7, 10, 1);
+            Check.states("refused", yard, 1, 0, 0, 4, 1, 7, 10, 1);
         }
         Check.due("refused: cell", yard.cell(7, 3), 4);
         Check.due("refused: out", yard.out(0), 5);
@@ -60,7 +54,7 @@ public final class RunTest {
         Check.due("refused: it goes on", yard.go(2), 0);
         Check.due("refused: with its input", yard.state(1), 2);
         Check.due("refused, ended: begin", yard.begin(6, 0), -1);
-        state(yard, "refused, ended", 0, 2, 0, 6, 0, -1, -1, 1);
+        Check.states("refused, ended", yard, 0, 2, 0, 6, 0, -1, -1, 1);
     }
 
     private static void beginUndoes() {
@@ -80,7 +74,7 @@ public final class RunTest {
         Check.due("undone: cell", yard.cell(0, 0), 0);
         Check.due("undone: cell of the called", yard.cell(1, 5), 0);
         Check.due("undone: what was before stays", yard.cell(2, 0), 1);
-        state(yard, "undone", 1, 0, 0, 0, 1, 2, 3, 0);
+        Check.states("undone", yard, 1, 0, 0, 0, 1, 2, 3, 0);
         Check.due("undone: out", yard.out(0), -1);
         Check.due("undone: stack", yard.stack(0), 0);
         Check.due("go", yard.go(9), 0);
@@ -120,11 +114,11 @@ public final class RunTest {
             Check.due("go(" + n + ")", yard.go(n), -1);
         }
         Check.due("go(0)", yard.go(0), 1);
-        state(yard, "nothing done", 1, 0, 0, 0, 1, 0, 3, 0);
+        Check.states("nothing done", yard, 1, 0, 0, 0, 1, 0, 3, 0);
         Check.due("go(3)", yard.go(3), 1);
-        state(yard, "three done", 1, 0, 0, 3, 1, 0, 8, 0);
+        Check.states("three done", yard, 1, 0, 0, 3, 1, 0, 8, 0);
         Check.due("go(1)", yard.go(1), 0);
-        state(yard, "ended", 0, 3, 0, 4, 0, -1, -1, 0);
+        Check.states("ended", yard, 0, 3, 0, 4, 0, -1, -1, 0);
         Check.due("ended: go(1)", yard.go(1), -1);
         Check.due("ended: go(0)", yard.go(0), -1);
         Check.load(yard, 0, Check.code(24));
@@ -139,37 +133,15 @@ public final class RunTest {
         Check.load(yard, 0, RING);
         yard.begin(0, 0);
         Check.due("2000", yard.go(2000), 1);
-        state(yard, "2000", 1, 0, 0, 2000, 1, 0, 3, 0);
+        Check.states("2000", yard, 1, 0, 0, 2000, 1, 0, 3, 0);
         Check.due("2000, go(0)", yard.go(0), 1);
         Check.due("2001", yard.go(1), 2);
-        state(yard, "2001", 2, 0, 6, 2000, 0, -1, -1, 0);
+        Check.states("2001", yard, 2, 0, 6, 2000, 0, -1, -1, 0);
         yard.begin(0, 0);
         Check.due("2001 at once", yard.go(2001), 2);
-        state(yard, "2001 at once", 2, 0, 6, 2000, 0, -1, -1, 0);
+        Check.states("2001 at once", yard, 2, 0, 6, 2000, 0, -1, -1, 0);
         yard.begin(0, 0);
         Check.due("the count begins anew", yard.go(1999), 1);
-        lastOneAt(2000, 23, 0, 0);
-        lastOneAt(2001, 23, 2, 6);
-        lastOneAt(2000, 24, 2, 1);
-        lastOneAt(2001, 24, 2, 6);
-    }
-
-    /** A code that comes to its last instruction, of one byte, as just the one with that number. */
-    private static void lastOneAt(int number, int last, int answer, int reason) {
-        // 3: 0 100, 5: 4 0, 7: six times 20 14, 19: 3 0, 21: 0 1, 23: 6, 24: 13, 25: 4 0, 27: 17 31,
-        // 29: 16 7, 31: the rest. A round has nineteen, but for the hundredth, which goes on at 31.
-        int[] head = {0, 100, 4, 0};
-        int[] round = Check.join(Check.times(6, 20, 14), new int[] {3, 0, 0, 1, 6, 13, 4, 0, 17, 31, 16, 7});
-        int rest = number - 1 - (2 + 19 * 100 - 1);
-        int[] fill = java.util.Arrays.copyOf(Check.times(rest, 20, 14), rest);
-        CodeYard yard = new CodeYard();
-        int loaded = Check.load(yard, 0, Check.code(Check.join(head, round, fill, new int[] {last})));
-        Check.that("sound: " + loaded, loaded > 0);
-        yard.begin(0, 0);
-        String what = "instruction " + number + " is " + last;
-        Check.due(what, yard.go(2001), answer);
-        Check.due(what + ": reason", yard.state(2), reason);
-        Check.due(what + ": done", yard.state(3), 2000);
     }
 
     private static void states() {
@@ -180,18 +152,18 @@ public final class RunTest {
         for (int what : new int[] {-1, 8, Integer.MIN_VALUE, Integer.MAX_VALUE}) {
             Check.due("state(" + what + ")", yard.state(what), -1);
         }
-        state(yard, "held", 1, 0, 0, 2, 1, 3, 6, 1);
+        Check.states("held", yard, 1, 0, 0, 2, 1, 3, 6, 1);
         yard.go(9);
-        state(yard, "ended", 0, 8, 0, 4, 0, -1, -1, 1);
+        Check.states("ended", yard, 0, 8, 0, 4, 0, -1, -1, 1);
         yard.begin(3, 0);
-        state(yard, "begun anew", 1, 0, 0, 0, 1, 3, 3, 0);
+        Check.states("begun anew", yard, 1, 0, 0, 0, 1, 3, 3, 0);
         yard.go(9);
         Check.load(yard, 4, Check.code(24));
         yard.begin(4, 0);
         yard.go(1);
-        state(yard, "thrown", 2, 0, 1, 1, 0, -1, -1, 0);
+        Check.states("thrown", yard, 2, 0, 1, 1, 0, -1, -1, 0);
         yard.begin(3, 0);
-        state(yard, "begun after a throw", 1, 0, 0, 0, 1, 3, 3, 0);
+        Check.states("begun after a throw", yard, 1, 0, 0, 0, 1, 3, 3, 0);
     }
 
     private static void calls() {
@@ -201,7 +173,7 @@ public final class RunTest {
         Check.load(yard, 5, 3, 4, 5, 24, 24, 3, 1, 0, 7, 5, 4, 1, 3, 1, 22);
         yard.begin(0, 0);
         yard.go(4);
-        state(yard, "called", 1, 0, 0, 4, 2, 5, 5, 0);
+        Check.states("called", yard, 1, 0, 0, 4, 2, 5, 5, 0);
         Check.due("called: stack", yard.stack(0), 0);
         Check.due("called: local", yard.local(1), 0);
         yard.go(4);
@@ -209,13 +181,13 @@ public final class RunTest {
         yard.go(1);
         Check.due("called: its stack", yard.stack(0), 7);
         yard.go(1);
-        state(yard, "back", 1, 0, 0, 10, 1, 0, 11, 0);
+        Check.states("back", yard, 1, 0, 0, 10, 1, 0, 11, 0);
         Check.due("back: stack", yard.stack(0), 30);
         Check.due("back: what it ended with", yard.stack(1), 7);
         Check.due("back: not more", yard.stack(2), 0);
         Check.due("back: local", yard.local(1), 40);
         Check.due("to the end", yard.go(9), 0);
-        state(yard, "to the end", 0, 77, 0, 14, 0, -1, -1, 0);
+        Check.states("to the end", yard, 0, 77, 0, 14, 0, -1, -1, 0);
         Check.load(yard, 5, Check.code(0, 1, 23));
         Check.load(yard, 0, Check.code(27, 5, 22));
         yard.begin(0, 0);
@@ -272,7 +244,7 @@ public final class RunTest {
         Check.load(yard, 0, Check.code(0, 5, 2, 0, 27, 1, 22));
         yard.begin(0, 0);
         Check.due("no code", yard.go(9), 2);
-        state(yard, "no code", 2, 0, 4, 3, 0, -1, -1, 0);
+        Check.states("no code", yard, 2, 0, 4, 3, 0, -1, -1, 0);
         Check.due("no code: cell", yard.cell(0, 0), 0);
         Check.load(yard, 1, Check.code(0, 5, 22));
         yard.begin(0, 0);
@@ -288,7 +260,7 @@ public final class RunTest {
         Check.tape(yard, 8);
         yard.begin(0, 0);
         Check.due("eight: held", yard.go(62), 1);
-        state(yard, "eight: held", 1, 0, 0, 62, 7, 0, 17, 0);
+        Check.states("eight: held", yard, 1, 0, 0, 62, 7, 0, 17, 0);
         Check.due("eight: called", yard.go(1), 1);
         Check.due("eight within one another", yard.state(4), 8);
         Check.due("eight", yard.go(2001), 0);
@@ -298,10 +270,10 @@ public final class RunTest {
         Check.due("seven calls", yard.go(7), 1);
         Check.due("seven calls: eight", yard.state(4), 8);
         Check.due("nine", yard.go(1), 2);
-        state(yard, "nine", 2, 0, 5, 8, 0, -1, -1, 0);
+        Check.states("nine", yard, 2, 0, 5, 8, 0, -1, -1, 0);
         yard.begin(0, 0);
         Check.due("nine at once", yard.go(2001), 2);
-        state(yard, "nine at once", 2, 0, 5, 8, 0, -1, -1, 0);
+        Check.states("nine at once", yard, 2, 0, 5, 8, 0, -1, -1, 0);
         // One behind the other, calls are as many as one likes.
         Check.load(yard, 1, Check.code(23));
         Check.load(yard, 2, Check.code(Check.join(Check.times(20, 27, 1, 14), new int[] {23})));
@@ -349,7 +321,7 @@ public final class RunTest {
         Check.due("held: cell", yard.cell(0, 0), 5);
         Check.due("held: cell of the called", yard.cell(1, 15), 6);
         Check.due("thrown in a call: wholly", yard.go(1), 2);
-        state(yard, "thrown", 2, 0, 1, 6, 0, -1, -1, 0);
+        Check.states("thrown", yard, 2, 0, 1, 6, 0, -1, -1, 0);
         Check.due("thrown: cell", yard.cell(0, 0), 3);
         Check.due("thrown: cell of the called", yard.cell(1, 15), 4);
         Check.load(yard, 2, Check.code(1, 0, 0, 1, 5, 2, 0, 16, 3));
