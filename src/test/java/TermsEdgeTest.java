@@ -3,11 +3,13 @@ public final class TermsEdgeTest {
     private static final int LEAST = Integer.MIN_VALUE;
     private static final int MOST = Integer.MAX_VALUE;
     private static final int[] NO_INPUT = {};
+    private static final int[] EIGHT = {1, 2, 3, 4, 5, 6, 7, 8};
 
     public static void main(String[] args) {
         tapeAndOut();
         codesAndCells();
         numbers();
+        fullStack();
         arithmetic();
         jumps();
         inputAndOutput();
@@ -211,6 +213,44 @@ public final class TermsEdgeTest {
         });
     }
 
+    private static void fullStack() {
+        Check.sentence("would leave more than 8: with 8 there, all others take and leave theirs", () -> {
+            int[] pushes = {0, 1, 0, 2, 0, 3, 0, 4, 0, 5, 0, 6, 0, 7, 0, 8};
+            int[][] others = {{2, 0}, {4, 0}, {5}, {6}, {15}, {16, 21}, {17, 21}, {18, 21}, {19}, {21}, {25}};
+            int[] below = {7, 7, 6, 6, 6, 8, 7, 6, 7, 7, 6};
+            int[][] above = {{}, {}, {15}, {-1}, {8, 7}, {}, {}, {}, {108}, {}, {0}};
+            for (int i = 0; i < others.length; i++) {
+                CodeYard yard = Check.yard(Check.join(pushes, others[i], new int[] {23}));
+                Check.tape(yard, 100, 101, 102, 103, 104, 105, 106, 107, 108);
+                yard.begin(0, 0);
+                yard.go(9);
+                for (int at = 0; at < 8; at++) {
+                    int[] left = Check.join(java.util.Arrays.copyOf(EIGHT, below[i]), above[i]);
+                    int want = at < left.length ? left[at] : 0;
+                    Check.due(others[i][0] + ": stack(" + at + ")", yard.stack(at), want);
+                }
+            }
+            Check.due("22", result(NO_INPUT, Check.join(pushes, new int[] {22})), 8);
+            Check.due("all added", result(NO_INPUT, Check.join(pushes, Check.times(7, 5), new int[] {22})), 36);
+        });
+        Check.sentence("would leave more than 8: 8 may be left", () -> {
+            int[] pushes = {0, 1, 0, 2, 0, 3, 0, 4, 0, 5, 0, 6, 0, 7};
+            int[][] others = {{0, 9}, {1, 0}, {3, 0}, {13}, {20}, {27, 1}};
+            int[] tops = {9, 0, 0, 7, 2, 70};
+            for (int i = 0; i < others.length; i++) {
+                CodeYard yard = Check.yard(Check.join(pushes, others[i], new int[] {22}));
+                Check.load(yard, 1, Check.code(0, 70, 22));
+                Check.tape(yard, 5, 6);
+                yard.begin(0, 0);
+                yard.go(others[i][0] == 27 ? 10 : 8);
+                Check.due(others[i][0] + ": stack(7)", yard.stack(7), tops[i]);
+                Check.due(others[i][0] + ": stack(6)", yard.stack(6), 7);
+                Check.due("it ends", yard.go(1), 0);
+                Check.due(others[i][0] + ": it ends with it", yard.state(1), tops[i]);
+            }
+        });
+    }
+
     private static void arithmetic() {
         Check.sentence("a STACK of ints (wrapping)", () -> {
             two(5, MOST, 1, LEAST);
@@ -229,10 +269,14 @@ public final class TermsEdgeTest {
         Check.sentence("8 a and b; 9 or; 10 xor", () -> {
             two(8, LEAST, -1, LEAST);
             two(8, LEAST, MOST, 0);
+            two(8, 12, 10, 8);
             two(9, LEAST, MOST, -1);
             two(9, 0, 0, 0);
+            two(9, -1, 5, -1);
+            two(9, 12, 10, 14);
             two(10, -1, MOST, LEAST);
             two(10, LEAST, LEAST, 0);
+            two(10, 12, 10, 6);
         });
         Check.sentence("11 a << b (b's lowest five bits)", () -> {
             two(11, 3, 0, 3);
